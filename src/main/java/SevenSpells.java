@@ -167,7 +167,7 @@ public final class SevenSpells {
         if (refused != ALLOWED) {
             return refused;
         }
-        return oneIf(rules.canBe(state, rules.deedOf(person, sort, which)));
+        return oneIf(rules.after(state, rules.deedOf(person, sort, which)) != NONE);
     }
 
     /** ALLOWED, or why such a deed cannot even be spoken of. */
@@ -193,8 +193,8 @@ public final class SevenSpells {
         if (refused != ALLOWED) {
             return refused;
         }
-        int deed = rules.deedOf(person, sort, which);
-        if (!rules.canBe(state, deed)) {
+        int after = rules.after(state, rules.deedOf(person, sort, which));
+        if (after == NONE) {
             return NOT;
         }
         if (deeds >= MOST_DEEDS) {
@@ -204,7 +204,6 @@ public final class SevenSpells {
             undoable.dropFirst();
         }
         undoable.add(state);
-        int after = rules.after(state, deed);
         state = State.of(after);
         deeds++;
         return State.lifted(after);
@@ -407,13 +406,16 @@ public final class SevenSpells {
             return OUTSIDE;
         }
         int then = state;
-        for (int i = 0; i < MOST_IN_ROW && i < row.size(); i++) {
-            if (!rules.canBe(then, row.at(i))) {
-                return what == 0 ? i : Integer.bitCount(State.holding(then));
+        int failing = NONE;
+        for (int i = 0; i < MOST_IN_ROW && i < row.size() && failing == NONE; i++) {
+            int after = rules.after(then, row.at(i));
+            if (after == NONE) {
+                failing = i;
+            } else {
+                then = State.of(after);
             }
-            then = State.of(rules.after(then, row.at(i)));
         }
-        return what == 0 ? NONE : Integer.bitCount(State.holding(then));
+        return what == 0 ? failing : Integer.bitCount(State.holding(then));
     }
 
     public int prince(int person, int day, int whom) {
@@ -439,7 +441,6 @@ public final class SevenSpells {
         int lifted = 0;
         int waited = 0;
         for (int i = 0; i < MOST_PRINCES && i < princes.size(); i++) {
-            int kiss = princes.at(i) >> Deed.DAY_BITS;
             int day = princes.at(i) & Deed.DAY_MASK;
             for (int night = 0; night < LAST_DAY && State.day(then) != day; night++) {
                 int after = rules.after(then, rules.nightDeed());
@@ -447,8 +448,8 @@ public final class SevenSpells {
                 lifted += Integer.bitCount(State.lifted(after));
                 waited++;
             }
-            if (rules.canBe(then, kiss)) {
-                int after = rules.after(then, kiss);
+            int after = rules.after(then, princes.at(i) >> Deed.DAY_BITS);
+            if (after != NONE) {
                 then = State.of(after);
                 lifted += Integer.bitCount(State.lifted(after));
             }
@@ -645,7 +646,8 @@ public final class SevenSpells {
         }
 
         static int nextDay(int state) {
-            int tomorrow = day(state) >= LAST_DAY ? 0 : day(state) + 1;
+            int today = state >> DAY_AT & 7;
+            int tomorrow = today >= LAST_DAY ? 0 : today + 1;
             return state & ~(WEEP_BITS | DAY_BITS) | tomorrow << DAY_AT;
         }
 
@@ -877,8 +879,18 @@ public final class SevenSpells {
             draft.takeOver(told);
             cutIntoTokens();
             at = 0;
-            lines = 0;
-            return readLines() ? NONE : places.at(at);
+            for (lines = 1; lines <= MOST_LINES; lines++) {
+                if (!readLine()) {
+                    return places.at(at);
+                }
+                if (codes.at(at) == END) {
+                    return NONE;
+                }
+                if (lines == MOST_LINES || !takes(SEMICOLON)) {
+                    return places.at(at);
+                }
+            }
+            return places.at(at);
         }
 
         private void cutIntoTokens() {
@@ -951,22 +963,6 @@ public final class SevenSpells {
                 }
             }
             return true;
-        }
-
-        private boolean readLines() {
-            for (int line = 1; line <= MOST_LINES; line++) {
-                if (!readLine()) {
-                    return false;
-                }
-                lines = line;
-                if (codes.at(at) == END) {
-                    return true;
-                }
-                if (line == MOST_LINES || !takes(SEMICOLON)) {
-                    return false;
-                }
-            }
-            return false;
         }
 
         private boolean readLine() {
@@ -1249,17 +1245,27 @@ public final class SevenSpells {
             return isDeed(deed) ? whichs[deed] : NONE;
         }
 
-        boolean canBe(int state, int deed) {
-            if (!isDeed(deed) || (state & bars[deed]) != 0) {
-                return false;
+        /** By bits: the deeds of these people, and the night. */
+        int deedsBy(int who) {
+            int found = 0;
+            for (int d = 0; d < deedCount && d < Deed.MOST; d++) {
+                if (doers[d] == NONE || (who >> doers[d] & 1) != 0) {
+                    found |= 1 << d;
+                }
             }
-            return sorts[deed] != Deed.ASK || State.asked(state) < MOST_ASKED;
+            return found;
         }
 
-        /** The state behind a deed that can be, and above it the spells that were lifted: State takes them apart. */
+        /**
+         * The state behind a deed, and above it the spells that were lifted: State takes them apart. NONE: it can not
+         * be. All that is foretold is made of this, so it calls as little as it can.
+         */
         int after(int state, int deed) {
-            if (!isDeed(deed)) {
-                return state;
+            if (deed < 0 || deed >= deedCount || deed >= Deed.MOST || (state & bars[deed]) != 0) {
+                return NONE;
+            }
+            if (sorts[deed] == Deed.ASK && State.asked(state) >= MOST_ASKED) {
+                return NONE;
             }
             int then = sorts[deed] == Deed.NIGHT ? State.nextDay(state) : state + bits[deed];
             int kiss = kisses[deed];
@@ -1294,6 +1300,7 @@ public final class SevenSpells {
         private int start = NONE;
         private int doers;
         private int unlifted;
+        private int deedsAllowed;
 
         Search(Rules rules) {
             this.rules = rules;
@@ -1321,6 +1328,7 @@ public final class SevenSpells {
             start = from;
             doers = byWhom;
             unlifted = notLifting;
+            deedsAllowed = rules.deedsBy(byWhom);
             add(from, 0, 0, 0);
         }
 
@@ -1359,12 +1367,9 @@ public final class SevenSpells {
             int state = stateAt(i);
             int distance = distanceAt(i) + 1;
             for (int deed = firstDeed; deed <= lastDeed && deed < Deed.MOST; deed++) {
-                int doer = rules.doerOf(deed);
-                if ((doer == NONE || (doers >> doer & 1) != 0) && rules.canBe(state, deed)) {
-                    int after = rules.after(state, deed);
-                    if ((State.lifted(after) & unlifted) == 0) {
-                        add(State.of(after), deed, i, distance);
-                    }
+                int after = (deedsAllowed >> deed & 1) == 0 ? NONE : rules.after(state, deed);
+                if (after != NONE && (State.lifted(after) & unlifted) == 0) {
+                    add(State.of(after), deed, i, distance);
                 }
             }
         }
