@@ -178,6 +178,8 @@ public final class PromisesTest {
 
     private static void faultInLines() {
         due("4 ; alone", faultOf(";"), 0);
+        due("4 ; instead of people", faultOf("land;bare"), 4);
+        due("4 ; instead of a day", faultOf("day ;bare"), 4);
         due("4 a ; at the end", faultOf("bare;"), 5);
         due("4 ; and blanks at the end", faultOf("bare; "), 6);
         due("4 ;;", faultOf("bare;;bare"), 5);
@@ -202,12 +204,23 @@ public final class PromisesTest {
         due("4 a row of digits", faultOf("day 11"), 4);
         due("4 digits with a blank", faultOf("day 1 1"), 6);
         due("4 a minus", faultOf("day -1"), 4);
+        due("4 letters up to z are of the word", faultOf("landz 2"), 0);
+        due("4 letters from a are of the word", faultOf("landa 2"), 0);
+        due("4 digits up to 9 are of the number", faultOf("land 29"), 5);
+        due("4 digits from 0 are of the number", faultOf("land 20"), 5);
     }
 
     private static void faultOfSpells() {
         due("4 sleep without if", faultOf("sleep 0 kiss 1"), 8);
         due("4 no term", faultOf("sleep 0 if and day 1"), 11);
         due("4 no such term", faultOf("sleep 0 if land 1"), 11);
+        due("4 wakes instead of a term", faultOf("sleep 0 if wakes 0"), 11);
+        due("4 ; instead of a term", faultOf("sleep 0 if;bare"), 10);
+        due("4 ; instead of if", faultOf("sleep 0;bare"), 7);
+        due("4 ; instead of a number", faultOf("sleep;bare"), 5);
+        due("4 ; instead of a term's number", faultOf("sleep 0 if day;bare"), 14);
+        due("4 ; behind and", faultOf("sleep 0 if day 1 and;bare"), 20);
+        due("4 ; behind wakes", faultOf("sleep 0 if day 1 wakes;bare"), 22);
         due("4 mute 1", faultOf("mute 1 if weep 1"), NONE);
         due("4 weep 2", faultOf("mute 1 if weep 2"), 15);
         due("4 whole 2", faultOf("frog 1 if whole 2"), 16);
@@ -629,6 +642,9 @@ public final class PromisesTest {
         SevenSpells w = told("land 3;mute 0 if weep 0 and weep 1 and weep 2");
         due("18 three", w.helpers(1, 0), 3);
         due("18 three: who", w.helpers(1, 1), 7);
+        SevenSpells u = told("land 3;mute 1 if kiss 0");
+        due("18 one who kisses", u.helpers(1, 0), 1);
+        due("18 one who kisses: who", u.helpers(1, 1), 1);
         SevenSpells v = told("mute 0 if gone 0");
         due("18 never", v.helpers(1, 0), NONE);
         due("18 never: who", v.helpers(1, 1), NONE);
@@ -695,6 +711,9 @@ public final class PromisesTest {
         due("21 by one deed: both again", y.ahead(1), 1);
         SevenSpells z = told("mute 0 if holds 0 wakes 0;frog 1 if weep 0");
         due("21 each deed lifts it, it holds on", z.ahead(1), 1);
+        SevenSpells w = told("mute 0 if asked 1;frog 0 if weep 1 wakes 0;frog 1 if gone 0 and gone 1");
+        due("21 a question", w.act(1, ASK, 0), 1);
+        due("21 one that does not hold now is none, though it must go again", w.ahead(2), 2);
     }
 
     private static void props() {
@@ -711,6 +730,13 @@ public final class PromisesTest {
         due("22 none of never", w.props(), 0);
         SevenSpells v = told("mute 0 if broken 0 and whole 0;mute 1 if gone 0;bind 1 if asked 1");
         due("22 bound or not", v.props(), 2);
+        SevenSpells u = told("sleep 0 if whole 0;mute 1 if gone 0;frog 0 if day 1 wakes 0");
+        due("22 both go", u.act(1, ASK, 0), NOT);
+        due("22 both go with tears", u.act(1, WEEP, 0), 3);
+        due("22 a gift", u.act(1, SMASH, 0), 0);
+        due("22 one wakes for ever", u.act(1, NIGHT, 0), 4);
+        due("22 never", u.never(), 1);
+        due("22 one that does not hold is no prop", u.props(), 0);
     }
 
     private static void gone() {
@@ -939,6 +965,18 @@ public final class PromisesTest {
         dueMayBe("34 BROKEN 1", y, 5, 1, NONE, NONE);
         y.tried(NONE, 0, 2, 3, 0);
         dueMayBe("34 BROKEN 1 and WHOLE 0", y, 5, 1, 6, 0);
+        SevenSpells w = new SevenSpells();
+        w.tried(NONE, 1, 3, 0, 1);
+        w.tried(NONE, 0, 3, 0, 0);
+        due("34 WEEP 0, alone or with DAY 3, WHOLE 0, WHOLE 1", w.mayBe(0), 4);
+        dueMayBe("34 WEEP 0", w, 1, 0, NONE, NONE);
+        SevenSpells v = new SevenSpells();
+        v.tried(0, 2, 3, 0, 1);
+        dueMayBe("34 KISS 0", v, 0, 0, NONE, NONE);
+        v.tried(0, 2, 4, 0, 0);
+        dueMayBe("34 DAY 3 alone is ahead of KISS 0 and DAY 3", v, 2, 3, NONE, NONE);
+        v.tried(1, 2, 3, 0, 0);
+        dueMayBe("34 KISS 0 and DAY 3", v, 0, 0, 2, 3);
         SevenSpells z = told("land 1");
         z.tried(NONE, 0, 3, 0, 1);
         z.tried(NONE, 0, 4, 0, 0);
