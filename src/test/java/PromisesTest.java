@@ -561,6 +561,7 @@ public final class PromisesTest {
         type(x, "day 7");
         x.land();
         due("15 a text that fails", x.back(0), 4);
+        due("15 it is of no land yet", x.count(12), 5);
         x.erase();
         tell(x, "day 3");
         due("15 a text", x.back(0), NOT);
@@ -902,6 +903,9 @@ public final class PromisesTest {
         y.prince(0, 1, 1);
         due("31 asleep first, awake then", y.inLine(0), 3);
         due("31 a night for it", y.inLine(1), 1);
+        SevenSpells z = told("mute 0 if holds 0 wakes 0");
+        z.prince(0, 2, 1);
+        due("31 lifted with each deed", z.inLine(0), 3);
     }
 
     private static void tried() {
