@@ -896,16 +896,21 @@ public final class SevenSpells {
         private void cutIntoTokens() {
             codes.empty();
             places.empty();
-            int end = 0;
-            for (int begin = 0; begin < text.size(); begin = end) {
-                end = endOfToken(begin);
-                if (text.at(begin) != ' ') {
-                    codes.add(codeOf(begin, end));
-                    places.add(begin);
+            for (int i = 0; i < text.size(); i++) {
+                if (beginsToken(i)) {
+                    codes.add(codeOf(i, endOfToken(i)));
+                    places.add(i);
                 }
             }
             codes.add(END);
             places.add(text.size());
+        }
+
+        private boolean beginsToken(int i) {
+            int letter = text.at(i);
+            int ahead = text.at(i - 1);
+            boolean goesOn = isSmall(letter) && isSmall(ahead) || isDigit(letter) && isDigit(ahead);
+            return letter != ' ' && !goesOn;
         }
 
         private int endOfToken(int begin) {
