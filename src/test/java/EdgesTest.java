@@ -288,6 +288,7 @@ public final class EdgesTest {
             """);
         run("4 what may end a line", """
             reads 'bare 0' = 5
+            reads 'bare9bare' = 4
             reads 'bare bare' = 5
             reads 'bare if' = 5
             reads 'land 2 2' = 7
@@ -1624,6 +1625,16 @@ public final class EdgesTest {
             mayBe(0..4) = 0 NOT NOT NOT NOT
             mayBe(-1|5) = OUTSIDE                # ahead of NOT
             """);
+        run("34 none, of a smaller land behind a greater one", """
+            told land 3
+            tried(NONE, 0, 0, 1, 1) = 1
+            tried(NONE, 0, 0, 0, 0) = 2
+            mayBe(0..4) = 3 5 0 NONE NONE
+            told land 1
+            tried(NONE, 0, 0, 0, 1) = 1
+            tried(NONE, 0, 0, 0, 0) = 2
+            mayBe(0..4) = 0 NOT NOT NOT NOT
+            """);
         run("34 the last of all: WHOLE 0 and WHOLE 1", """
             tried(NONE, 0, 0, 0, 1) = 1
             tried(NONE, 0, 1, 0, 1) = 2
@@ -1697,6 +1708,12 @@ public final class EdgesTest {
             tried(NONE, 0, 6, 3, 1) = 1
             tried(NONE, 0, 0, 3, 0) = 2
             next() = 6
+            """);
+        run("35 a day on which all would be lifted tells less than one on which some would", """
+            tried(NONE, 0, 0, 0, 1) = 1
+            tried(NONE, 0, 0, 1, 0) = 2
+            mayBe(0) = 3                         # WHOLE 0, alone or with DAY 0 or WHOLE 1
+            next() = 1                           # on day 0 3 and 0, on others 2 and 1
             """);
         run("35 nobody kissing or weeping, all gifts whole", """
             tried(NONE, 1, 0, 0, 1) = 1
