@@ -377,6 +377,9 @@ public final class DocumentTest {
 
     private static void deeds() {
         says("======== 2 One of PEOPLE is ASLEEP, a FROG, MUTE, if a SPELL of that KIND that is on him HOLDS.", """
+            told mute 0 if day 2;mute 0 if day 1
+            act(0, 4, 0) = 2
+            person(0, 2) = 1                     # the other one holds yet
             told land 3;sleep 0 if day 1;frog 1 if day 2;mute 2 if day 3;mute 2 if day 4;bind 1 if day 5
             person(0, 0..2) = 1 0 0
             person(1, 0..2) = 0 1 0
@@ -449,7 +452,11 @@ public final class DocumentTest {
     private static void terms() {
         says("A TERM is so: KISS: the DEED is a KISS by p of the one on whom the SPELL is;", """
             told land 3;frog 2 if kiss 1;bind 0 if day 6 and kiss 1;frog 1 if kiss 2;frog 0 if kiss 0
-            act(1, 0, 2) = 0                     # bound
+            act(1, 0, 2) = 0                     # bound, and no spell is kissed
+            act(1..2, 0, 0) = 0
+            told bare;frog 2 if kiss 1 and kiss 1;mute 2 if kiss 1 and kiss 0
+            act(1, 0, 2) = 1
+            act(0, 0, 2) = 0                     # no deed is two kisses
             told bare;frog 2 if kiss 1;mute 1 if kiss 0
             act(0, 0, 2) = 0
             act(1, 0, 0) = 0
@@ -520,6 +527,13 @@ public final class DocumentTest {
             spell(0, 3) = 1                      # by the other one
             act(1, 4, 0) = 4
             spell(0, 3) = 0
+            act(1, 2, 0) = 1
+            """, """
+            told mute 0 if asked 1;bind 0 if day 1;bind 0 if weep 1
+            act(1, 3, 0) = 0
+            act(1, 1, 0) = 4
+            spell(0, 3) = 1
+            act(1, 4, 0) = 2
             act(1, 2, 0) = 1
             """, """
             told mute 0 if asked 1;bind 0 if gone 1;bind 1 if day 1
@@ -617,6 +631,8 @@ public final class DocumentTest {
             helpers(1|2|7, 1) = 6
             act(2, 1, 0) = 0
             helpers(1, 0..1) = 1 2
+            told bare;mute 0 if weep 0 and weep 1 and weep 2
+            helpers(1, 0..1) = 3 7
             """);
         says("of several sets the least (bits);", """
             told land 3;mute 2 if asked 1
@@ -662,6 +678,10 @@ public final class DocumentTest {
             """, """
             told mute 0 if weep 0;mute 1 if weep 0;frog 0 if gone 0
             ahead(0..2) = 6 5 3                  # one deed lifts all three
+            """, """
+            told mute 0 if asked 1;frog 0 if weep 1 wakes 0;frog 1 if gone 0 and gone 1
+            act(1, 3, 0) = 1
+            ahead(2) = 2                         # the first must go again, but it does not hold now
             """);
     }
 
@@ -676,7 +696,14 @@ public final class DocumentTest {
             told sleep 0 if kiss 1;sleep 1 if gone 0 and kiss 0
             never() = 3
             props() = 0                          # a kiss alone is not so; two are not so
-            told bare;sleep 0 if gone 0;sleep 1 if day 5 and gone 0;frog 0 if day 0
+            told bare;mute 0 if whole 0;mute 1 if gone 0;frog 0 if day 1 wakes 0
+            act(1, 1, 0) = 3
+            act(1, 2, 0) = 0
+            act(1, 4, 0) = 4
+            never() = 1
+            props() = 0                          # one that is gone is not of NEVER
+            told land 2
+            told sleep 0 if gone 0;sleep 1 if day 5 and gone 0;frog 0 if day 0
             props() = 0
             """);
         says("GONE BEST for a set: the SPELL of it not that HOLDS and, were it gone at once, makes FEWEST least (fewer than now, "
@@ -775,6 +802,12 @@ public final class DocumentTest {
             mayBe(0..4) = 2 1 1 2 3
             tried(NONE, 0, 3, 3, 1) = 5
             mayBe(0..4) = 0 NOT NOT NOT NOT
+            """, """
+            tried(0, 1, 2, 0, 1) = 1
+            tried(0, 2, 2, 0, 0) = 2
+            mayBe(0..4) = 5 1 0 NONE NONE        # WEEP 0, alone or with KISS 0, DAY 2, WHOLE 0, WHOLE 1
+            tried(NONE, 1, 2, 0, 0) = 3
+            mayBe(0..4) = 1 0 0 1 0
             """);
         says("NEXT: of the DAYS 0 .. 6, nobody kissing or weeping, all GIFTS whole, that on which the more of those that would be "
             + "LIFTED and those that would not are fewest; of several the least; none: none MAY BE.", """
@@ -1036,9 +1069,22 @@ public final class DocumentTest {
             undo() = 0
             count(2..8) = 3 0 0 0 0 0 0
             undo() = NOT
-            9 times act(1, 4, 0) = 0
+            """, """
+            9 times act(0, 4, 0) = 0
+            act(0, 1, 0) = 0
+            count(4..8) = 1 2 0 10 8
             undo() = 7
-            count(7) = 8
+            count(4..8) = 0 2 0 9 7
+            undo() = 6
+            undo() = 5
+            undo() = 4
+            undo() = 3
+            count(5) = 5
+            undo() = 2
+            undo() = 1
+            undo() = 0
+            count(4..8) = 0 2 0 2 0
+            undo() = NOT
             """);
         says("`int keep(int k)`: All as it is (but what can be undone, what was TRIED, THE ROW, THE QUEUE) is kept (k 0, 1): how many "
             + "DEEDS have been. UNKNOWN: no such k.", """
